@@ -1,7 +1,8 @@
 /**
  * A hotel that lets each GUEST two ROOMS: its own, and one for whom it might have been.
  *
- * Every array is made once, in a constructor, and used again by all calls: no call makes an object.
+ * Rows are made in constructors and used again by all calls; but for the first keep() in a place no call makes
+ * an object, since a run's objects are never given back.
  */
 public final class SecondRoom {
     public static final int BAD = -1, FULL = -2, FINDING = -3, STATE = -4, SPENT = -6, NONE = -9;
@@ -55,25 +56,13 @@ public final class SecondRoom {
     // ---- 1 rows, texts, hotels
 
     public int row(int r, int n) {
-        if (!rows.isNumber(r) || n > ROW_SIZE) {
-            return BAD;
-        }
-        if (n < 0) {
-            return found(SIZE);
-        }
-        rows.make(r, n, 0);
-        return n;
+        return makePaper(rows, r, n, 0);
     }
 
     public int lay(int r, int i, int v) {
-        if (!rows.isNumber(r)) {
-            return BAD;
-        }
-        if (rows.isMissing(r)) {
-            return found(NOTHING);
-        }
-        if (!rows.isPlace(r, i)) {
-            return found(BEYOND);
+        int refusal = refusalOfPlace(rows, r, i);
+        if (refusal != 0) {
+            return refusal;
         }
         int before = rows.placeOf(r, i);
         rows.setPlace(r, i, v);
@@ -81,24 +70,14 @@ public final class SecondRoom {
     }
 
     public int at(int r, int i) {
-        if (!rows.isNumber(r)) {
-            return BAD;
-        }
-        if (rows.isMissing(r)) {
-            return found(NOTHING);
-        }
-        if (!rows.isPlace(r, i)) {
-            return found(BEYOND);
-        }
-        return tell(1, rows.placeOf(r, i));
+        int refusal = refusalOfPlace(rows, r, i);
+        return refusal != 0 ? refusal : tell(1, rows.placeOf(r, i));
     }
 
     public int tear(int r) {
-        if (!rows.isNumber(r)) {
-            return BAD;
-        }
-        if (rows.isMissing(r)) {
-            return found(NOTHING);
+        int refusal = refusalOfPaper(rows, r);
+        if (refusal != 0) {
+            return refusal;
         }
         rows.remove(r);
         return 1;
@@ -122,11 +101,9 @@ public final class SecondRoom {
     }
 
     public int mean(int r) {
-        if (!rows.isNumber(r)) {
-            return BAD;
-        }
-        if (rows.isMissing(r)) {
-            return found(NOTHING);
+        int refusal = refusalOfPaper(rows, r);
+        if (refusal != 0) {
+            return refusal;
         }
         int size = rows.sizeOf(r);
         if (size < 1) {
@@ -136,25 +113,13 @@ public final class SecondRoom {
     }
 
     public int text(int t, int n) {
-        if (!texts.isNumber(t) || n > TEXT_SIZE) {
-            return BAD;
-        }
-        if (n < 0) {
-            return found(SIZE);
-        }
-        texts.make(t, n, BLANK);
-        return n;
+        return makePaper(texts, t, n, BLANK);
     }
 
     public int put(int t, int i, int v) {
-        if (!texts.isNumber(t)) {
-            return BAD;
-        }
-        if (texts.isMissing(t)) {
-            return found(NOTHING);
-        }
-        if (!texts.isPlace(t, i)) {
-            return found(BEYOND);
+        int refusal = refusalOfPlace(texts, t, i);
+        if (refusal != 0) {
+            return refusal;
         }
         int before = texts.placeOf(t, i);
         texts.setPlace(t, i, (byte) v);
@@ -162,21 +127,14 @@ public final class SecondRoom {
     }
 
     public int fault(int t) {
-        if (!texts.isNumber(t)) {
-            return BAD;
-        }
-        if (texts.isMissing(t)) {
-            return found(NOTHING);
-        }
-        return reader.read(t, draft);
+        int refusal = refusalOfPaper(texts, t);
+        return refusal != 0 ? refusal : reader.read(t, draft);
     }
 
     public int hotel(int t) {
-        if (!texts.isNumber(t)) {
-            return BAD;
-        }
-        if (texts.isMissing(t)) {
-            return found(NOTHING);
+        int refusal = refusalOfPaper(texts, t);
+        if (refusal != 0) {
+            return refusal;
         }
         if (reader.read(t, draft) != NONE) {
             return STATE;
@@ -644,6 +602,34 @@ public final class SecondRoom {
         return FINDING;
     }
 
+    private int makePaper(Shelf shelf, int p, int n, int v) {
+        if (!shelf.isNumber(p) || n > shelf.width) {
+            return BAD;
+        }
+        if (n < 0) {
+            return found(SIZE);
+        }
+        shelf.make(p, n, v);
+        return n;
+    }
+
+    /** What refuses a paper; 0: it is there. */
+    private int refusalOfPaper(Shelf shelf, int p) {
+        if (!shelf.isNumber(p)) {
+            return BAD;
+        }
+        return shelf.isMissing(p) ? found(NOTHING) : 0;
+    }
+
+    /** What refuses a place of a paper; 0: there is such a place. */
+    private int refusalOfPlace(Shelf shelf, int p, int i) {
+        int refusal = refusalOfPaper(shelf, p);
+        if (refusal != 0) {
+            return refusal;
+        }
+        return shelf.isPlace(p, i) ? 0 : found(BEYOND);
+    }
+
     private int tell(int answer, int number) {
         toldNumber = number;
         return answer;
@@ -844,7 +830,7 @@ public final class SecondRoom {
 
     /** ROWS or TEXTS: papers of up to a width of places each, or missing. */
     private static final class Shelf {
-        private final int width;
+        final int width;
         /** The size of each paper; -1: it is missing. */
         private final int[] sizes;
         private final int[] places;

@@ -22,11 +22,11 @@ final class Checks {
         due(call + ", asked()", x.asked(), asked);
     }
 
-    /** A refused call: what it answers, and that it changed nothing. */
     interface Call {
         long answer();
     }
 
+    /** A refused call: what it answers, and that it changed nothing. */
     void refused(String call, SecondRoom x, Call c, long want) {
         long digest = x.digest();
         long asked = x.asked();
@@ -51,6 +51,16 @@ final class Checks {
         due(call + " then findings(" + finding + ")", x.findings(finding), before + 1);
         due(call + " then digest()", x.digest(), digest);
         due(call + " then asked()", x.asked(), asked);
+    }
+
+    /** DEEDS, who is IN ROOM 1, LOCKED doors, HOURS of both ROOMS of GUEST 0, 1, .. as far as told. */
+    void stateIs(String when, SecondRoom x, int deeds, int inSecond, int locked, int... hours) {
+        due(when + ": count(3)", x.count(3), deeds);
+        due(when + ": count(4)", x.count(4), inSecond);
+        due(when + ": count(5)", x.count(5), locked);
+        for (int i = 0; i < hours.length; i++) {
+            due(when + ": HOURS " + i, x, x.guest(i / 2, 6 + i % 2), 1, hours[i]);
+        }
     }
 
     static void write(SecondRoom x, int t, String text) {
