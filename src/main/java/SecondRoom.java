@@ -641,7 +641,7 @@ public final class SecondRoom {
         toldLower = down / measure;
     }
 
-    /** The greatest number that measures both; each step of the loop lessens b, which begins with at most MOST_TURNS. */
+    /** The greatest number that measures both; each step lessens b, which begins with at most MOST_TURNS. */
     private static int commonMeasure(int up, int down) {
         int a = up;
         int b = down;
@@ -1019,7 +1019,7 @@ public final class SecondRoom {
 
         /** A LIFE, but at the last TURN what another LIFE has at TURN 0. */
         private int lastAsFirst(int itsLife, int other) {
-            int last = lifeCount() >> 1;
+            int last = 1 << turns - 1;
             return itsLife & ~last | ((other & 1) == 1 ? last : 0);
         }
     }

@@ -42,7 +42,8 @@ public final class BillsTest {
     }
 
     private static void pays() {
-        int[][] due = {{1, 0, 0, 0}, {1, 2, 1, 0}, {1, 1, 2, 1}, {1, 0, 1, 3}, {1, 1, 0, 0}, {1, 3, 3, 0}, {2, 0, 1, 1}};
+        int[][] due = {{1, 0, 0, 0}, {1, 2, 1, 0}, {1, 1, 2, 1}, {1, 0, 1, 3}, {1, 1, 0, 0}, {1, 3, 3, 0},
+            {2, 0, 1, 1}};
         for (int[] d : due) {
             SecondRoom x = used(d[0], d[1], d[2]);
             c.due("pays(" + d[0] + ") of " + d[1] + ", " + d[2], x.pays(d[0]), d[3]);
@@ -64,6 +65,7 @@ public final class BillsTest {
         cheapestIs(2, 3, 1, 0, 5);
         cheapestIs(2, 3, 2, 2, 9);
         cheapestIs(4, 0, 2, 2, 4);
+        cheapestIs(2, 0, 2, 1, 1);
         cheapestIs(0, 1, 2, 0, 1);
         cheapestIs(0, 0, 0, 0, 0);
         cheapestIs(0, 0, 2, 0, 0);
@@ -120,6 +122,9 @@ public final class BillsTest {
         opened.lock(1, 1);
         c.due("lots(1, 1), LOCKED", opened.lots(1, 1), 0);
         c.stateIs("opened instead", opened, 2, 0, 0, 0, 0, 0, 0);
+        SecondRoom one = Checks.hotelOf("n2 g000 o0000");
+        c.due("lots(6, 1) of one GUEST", one.lots(6, 1), 0);
+        c.stateIs("lots(6, 1) of one GUEST", one, 6, 0, 0, 3, 1);
         SecondRoom locks = Checks.hotelOf(two);
         c.due("lots(1, 2)", locks.lots(1, 2), 0);
         c.stateIs("lots(1, 2) locks", locks, 1, 0, 1, 0, 0, 0, 0);

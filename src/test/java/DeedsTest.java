@@ -126,6 +126,13 @@ public final class DeedsTest {
         c.stateIs("on(2) again", x, 3, 2, 1, 0, 0, 0, 1);
         c.due("keep(0) anew", x.keep(0), 3);
         c.due("count(9) as before", x.count(9), 2);
+        x.undo(0);
+        x.change(0);
+        x.lock(1, 1);
+        x.use(1);
+        x.on(2);
+        c.due("undo(0) of what was kept, behind other DEEDS", x.undo(0), 3);
+        c.stateIs("undo(0) of what was kept", x, 0, 0, 0, 0, 0, 0, 0);
         SecondRoom none = new SecondRoom();
         c.refused("keep(0), no GUESTS", none, () -> none.keep(0), STATE);
         c.refused("keep(3), no GUESTS", none, () -> none.keep(3), BAD);
@@ -138,6 +145,9 @@ public final class DeedsTest {
         x.keep(1);
         x.hotel(0);
         c.due("count(9) behind hotel(0)", x.count(9), 0);
+        long forgotten = x.digest();
+        SecondRoom never = Checks.hotelOf(TEXT);
+        c.due("digest() is as if never kept", forgotten, never.digest());
         c.found("on(0) behind hotel(0)", x, () -> x.on(0), NOTHING);
         x.use(1);
         c.due("keep(1) once more", x.keep(1), 1);

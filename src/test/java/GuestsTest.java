@@ -76,6 +76,8 @@ public final class GuestsTest {
         x.lock(4, 1);
         c.due("mark of a CURATE as PRIEST, LOCKED", x.mark(4, 3), 1);
         c.due("mark of a CURATE", x.mark(4, 5), 1);
+        SecondRoom more = Checks.hotelOf("n3 u1101 o0101o2121o1010");
+        c.due("mark of a CURATE, more in ROOM 1", more.mark(0, 5), 1);
         int[][] unlike = {{0, 1}, {0, 2}, {0, 3}, {0, 4}, {0, 5}, {1, 2}, {1, 3}, {1, 4}, {1, 5}, {2, 1}, {2, 3},
             {3, 1}, {3, 2}, {3, 5}, {4, 1}, {4, 2}, {4, 4}};
         for (int[] u : unlike) {

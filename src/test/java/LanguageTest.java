@@ -10,7 +10,8 @@ public final class LanguageTest {
     private static final Checks c = new Checks("LanguageTest");
     private static final List<String> NEVER = List.of("\\bthrow\\b", "\\bthrows\\b", "\\btry\\b", "\\bcatch\\b",
         "\\bfinally\\b", "\\bsynchronized\\b", "\\bassert\\b", "\\bimport\\b", "\\bpackage\\b", "->", "::",
-        "Exact\\b", "\\bhashCode\\b", "\\btoString\\b", "\\bprotected\\b", "\\bstatic\\s*\\{", "\\bwhile\\s*\\(\\s*true",
+        "Exact\\b", "\\bhashCode\\b", "\\btoString\\b", "\\bprotected\\b", "\\bstatic\\s*\\{",
+        "\\bwhile\\s*\\(\\s*true",
         "for\\s*\\(\\s*;;", "\\bObject\\b", "\\bThread\\b", "\\bRandom\\b", "currentTimeMillis", "nanoTime");
 
     private static String withoutComments(String source) {
@@ -53,7 +54,8 @@ public final class LanguageTest {
     }
 
     private static void sizes(String code) {
-        c.due("classes", Pattern.compile("\\b(class|enum|record|interface) \\w+").matcher(code).results().count() <= 12 ? 1 : 0, 1);
+        long classes = Pattern.compile("\\b(class|enum|record|interface) \\w+").matcher(code).results().count();
+        c.due("classes " + classes, classes <= 12 ? 1 : 0, 1);
     }
 
     public static void main(String[] args) throws IOException {

@@ -97,6 +97,8 @@ public final class LivesTest {
         c.due("drawer(2)", x, x.drawer(2), 0, 2);
         SecondRoom y = Checks.hotelOf("n4 s00000 o0101 o2121 o1111 o3030");
         c.due("drawer: in ROOM 1 by TURNS 0; 0, 1, 2; 0, 1; none", y, y.drawer(0), 2, 2);
+        SecondRoom last = Checks.hotelOf("n2 g000 o0001 o0001");
+        c.due("drawer: none behind the last", last, last.drawer(0), 0, 2);
         SecondRoom z = Checks.hotelOf("n4 g00000 o0001 o0000 o0101");
         c.due("drawer: not there counts as well", z, z.drawer(0), 1, 3);
         c.refused("drawer(5)", x, () -> x.drawer(5), BAD);
@@ -124,6 +126,8 @@ public final class LivesTest {
         c.due("nearest(0, 2)", x, x.nearest(0, 2), 1, 4);
         c.due("nearest(1, 2), had already", x, x.nearest(1, 2), 0, 6);
         c.due("nearest(3, 2), two TURNS", x, x.nearest(3, 2), 2, 4);
+        SecondRoom nought = Checks.hotelOf("n2 g110 o0010 o1010");
+        c.due("nearest: LIFE 0", nought, nought.nearest(0, 0), 2, 0);
         c.refused("nearest(0, 3), none HAS it", x, () -> x.nearest(0, 3), NONE);
         c.refused("nearest(0, 4)", x, () -> x.nearest(0, 4), BAD);
         c.refused("nearest(0, -1)", x, () -> x.nearest(0, -1), BAD);

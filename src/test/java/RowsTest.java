@@ -97,6 +97,7 @@ public final class RowsTest {
         SecondRoom x = withRow(4, 1, 2);
         c.due("tear(4)", x.tear(4), 1);
         c.due("count(7)", x.count(7), 0);
+        c.due("digest() is as if never there", x.digest(), new SecondRoom().digest());
         c.found("at(4, 0)", x, () -> x.at(4, 0), NOTHING);
         c.found("tear(4) again", x, () -> x.tear(4), NOTHING);
         c.refused("tear(6)", x, () -> x.tear(6), BAD);

@@ -15,6 +15,7 @@ public final class WhoseSecondTest {
         }
         SecondRoom y = Checks.hotelOf("n2 g000 g101 g100 c100 o0000");
         c.due("twins, three", y.twins(0), 14);
+        c.due("twins, GUEST 0 alone", Checks.hotelOf("n2 g000 g100 o0000").twins(1), 1);
         SecondRoom own = Checks.hotelOf("n2 p001 g000 p001 o0000");
         c.due("twins: not itself", own.twins(0), 6);
         c.refused("twins(5)", x, () -> x.twins(5), BAD);
@@ -96,6 +97,11 @@ public final class WhoseSecondTest {
         c.due("marks of four LIVES", four, four.marks(), 2, 5);
         SecondRoom two = Checks.hotelOf("n2 g000 o1010 o0101");
         c.due("marks of LIVES 0, 1", two, two.marks(), 1, 2);
+        SecondRoom ten = Checks.hotelOf("n4g10112c10002c00103u00013g01100o1000o0131o3101o2121o3010");
+        c.refused("marks of ten LIVES, the last two alike in THINGS", ten, ten::marks, NONE);
+        SecondRoom looked = Checks.hotelOf("n3 g0000 o0101 o1111");
+        c.due("looks, of LIVES 1, 2, 4", looked, looked.looks(0), 2, 3);
+        c.due("marks behind it, of LIVES 0, 1", looked, looked.marks(), 1, 1);
         SecondRoom alike = Checks.hotelOf("n2 p001 p001 o0000");
         c.due("marks of LIVES all alike", alike, alike.marks(), 0, 0);
         SecondRoom none = new SecondRoom();
