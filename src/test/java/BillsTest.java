@@ -6,15 +6,7 @@ public final class BillsTest {
     private static final Checks c = new Checks("BillsTest");
 
     private static SecondRoom used(int g, int own, int seconds) {
-        SecondRoom x = Checks.hotelOf(BILLED);
-        for (int i = 0; i < own; i++) {
-            x.use(g);
-        }
-        x.change(g);
-        for (int i = 0; i < seconds; i++) {
-            x.use(g);
-        }
-        return x;
+        return Checks.usedBy(BILLED, g, own, seconds);
     }
 
     private static void billsAre(int g, int own, int seconds, int... due) {
@@ -76,34 +68,28 @@ public final class BillsTest {
         c.refused("cheapest(-1, 0)", x, () -> x.cheapest(-1, 0), BAD);
     }
 
-    private static void told(String call, SecondRoom x, int answer, long upper, long lower) {
-        c.due(call, answer, 1);
-        c.due(call + ", upper()", x.upper(), upper);
-        c.due(call + ", lower()", x.lower(), lower);
-    }
-
     private static void spread() {
         SecondRoom x = Checks.hotelOf("n3 g1011s0111c1111p1000u0110 o0111");
-        told("spread(0)", x, x.spread(0), 1, 1);
-        told("spread(1)", x, x.spread(1), 2, 1);
-        told("spread(2)", x, x.spread(2), 2, 1);
-        told("spread(3)", x, x.spread(3), 5, 3);
-        told("spread(4)", x, x.spread(4), 4, 3);
+        c.told("spread(0)", x, x.spread(0), 1, 1);
+        c.told("spread(1)", x, x.spread(1), 2, 1);
+        c.told("spread(2)", x, x.spread(2), 2, 1);
+        c.told("spread(3)", x, x.spread(3), 5, 3);
+        c.told("spread(4)", x, x.spread(4), 4, 3);
         SecondRoom never = Checks.hotelOf("n2 u000 o0000");
-        told("spread: never apart", never, never.spread(0), 0, 1);
+        c.told("spread: never apart", never, never.spread(0), 0, 1);
         SecondRoom colonel = Checks.hotelOf("n4 l00000 o0000");
-        told("spread of a COLONEL: 4, 4, 3, 2", colonel, colonel.spread(0), 13, 4);
+        c.told("spread of a COLONEL: 4, 4, 3, 2", colonel, colonel.spread(0), 13, 4);
         c.refused("spread(5)", x, () -> x.spread(5), BAD);
         c.refused("spread(-1)", x, () -> x.spread(-1), BAD);
     }
 
     private static void odds() {
         SecondRoom x = Checks.hotelOf("n4 s00000 o0101 o2121 o1111 o3030 o3131");
-        told("odds(0, 0)", x, x.odds(0, 0), 1, 4);
-        told("odds(0, 1)", x, x.odds(0, 1), 3, 4);
-        told("odds(0, 2)", x, x.odds(0, 2), 1, 2);
-        told("odds(0, 3)", x, x.odds(0, 3), 0, 1);
-        told("odds(0, 4)", x, x.odds(0, 4), 1, 1);
+        c.told("odds(0, 0)", x, x.odds(0, 0), 1, 4);
+        c.told("odds(0, 1)", x, x.odds(0, 1), 3, 4);
+        c.told("odds(0, 2)", x, x.odds(0, 2), 1, 2);
+        c.told("odds(0, 3)", x, x.odds(0, 3), 0, 1);
+        c.told("odds(0, 4)", x, x.odds(0, 4), 1, 1);
         c.refused("odds(0, 5)", x, () -> x.odds(0, 5), BAD);
         c.refused("odds(0, -1)", x, () -> x.odds(0, -1), BAD);
         c.refused("odds(1, 0)", x, () -> x.odds(1, 0), BAD);

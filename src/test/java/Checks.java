@@ -1,4 +1,6 @@
-/** What the tests share: compares answers with those that are due, and writes TEXTS. */
+import java.util.function.IntToLongFunction;
+
+/** What the tests share: compares answers with those that are due, and writes ROWS, TEXTS, HOTELS. */
 final class Checks {
     private final String test;
     private int wrong = 0;
@@ -6,6 +8,14 @@ final class Checks {
 
     Checks(String test) {
         this.test = test;
+    }
+
+    int made() {
+        return made;
+    }
+
+    int wrong() {
+        return wrong;
     }
 
     void due(String call, long got, long want) {
@@ -22,35 +32,72 @@ final class Checks {
         due(call + ", asked()", x.asked(), asked);
     }
 
+    /** A call that tells a chance or a mean. */
+    void told(String call, SecondRoom x, int answer, long upper, long lower) {
+        due(call, answer, 1);
+        due(call + ", upper()", x.upper(), upper);
+        due(call + ", lower()", x.lower(), lower);
+    }
+
     interface Call {
         long answer();
     }
 
+    /** What no refused call changes. */
+    private static long[] told(SecondRoom x) {
+        return new long[] {x.digest(), x.asked(), x.upper(), x.lower()};
+    }
+
+    private void stillTold(String call, SecondRoom x, long[] before) {
+        String[] names = {"digest()", "asked()", "upper()", "lower()"};
+        long[] now = told(x);
+        for (int i = 0; i < now.length; i++) {
+            due(call + " then " + names[i], now[i], before[i]);
+        }
+    }
+
+    private static int[] findings(SecondRoom x) {
+        int[] counts = new int[6];
+        for (int f = 1; f <= 5; f++) {
+            counts[f] = x.findings(f);
+        }
+        return counts;
+    }
+
+    private void findingsAre(String call, SecondRoom x, int[] counts) {
+        for (int f = 1; f <= 5; f++) {
+            due(call + " then findings(" + f + ")", x.findings(f), counts[f]);
+        }
+    }
+
     /** A refused call: what it answers, and that it changed nothing. */
     void refused(String call, SecondRoom x, Call c, long want) {
-        long digest = x.digest();
-        long asked = x.asked();
-        long upper = x.upper();
-        long lower = x.lower();
+        long[] before = told(x);
         int finding = x.finding();
+        int[] counts = findings(x);
         due(call, c.answer(), want);
-        due(call + " then digest()", x.digest(), digest);
-        due(call + " then asked()", x.asked(), asked);
-        due(call + " then upper()", x.upper(), upper);
-        due(call + " then lower()", x.lower(), lower);
+        stillTold(call, x, before);
         due(call + " then finding()", x.finding(), finding);
+        findingsAre(call, x, counts);
     }
 
     /** A call refused with a FINDING: which, that it is counted, and that it changed nothing else. */
     void found(String call, SecondRoom x, Call c, int finding) {
-        long digest = x.digest();
-        long asked = x.asked();
-        int before = x.findings(finding);
+        long[] before = told(x);
+        int[] counts = findings(x);
+        counts[finding]++;
         due(call, c.answer(), SecondRoom.FINDING);
+        stillTold(call, x, before);
         due(call + " then finding()", x.finding(), finding);
-        due(call + " then findings(" + finding + ")", x.findings(finding), before + 1);
-        due(call + " then digest()", x.digest(), digest);
-        due(call + " then asked()", x.asked(), asked);
+        findingsAre(call, x, counts);
+    }
+
+    /** That a number is BAD next to those from least to most on either side, and as far off as can be. */
+    void badOutside(String call, SecondRoom x, IntToLongFunction c, int least, int most) {
+        int[] outside = {least - 1, most + 1, Integer.MIN_VALUE, Integer.MAX_VALUE};
+        for (int number : outside) {
+            refused(call + ", " + number + " for the dots", x, () -> c.applyAsLong(number), SecondRoom.BAD);
+        }
     }
 
     /** DEEDS, who is IN ROOM 1, LOCKED doors, HOURS of both ROOMS of GUEST 0, 1, .. as far as told. */
@@ -61,6 +108,27 @@ final class Checks {
         for (int i = 0; i < hours.length; i++) {
             due(when + ": HOURS " + i, x, x.guest(i / 2, 6 + i % 2), 1, hours[i]);
         }
+    }
+
+    /** The size of a ROW, and what lies in its places. */
+    void rowIs(String when, SecondRoom x, int r, int... values) {
+        for (int i = 0; i < values.length; i++) {
+            due(when + ": at(" + r + ", " + i + ")", x, x.at(r, i), 1, values[i]);
+        }
+        due(when + ": at(" + r + ", size)", x.at(r, values.length), SecondRoom.FINDING);
+    }
+
+    static void fill(SecondRoom x, int r, int... values) {
+        x.row(r, values.length);
+        for (int i = 0; i < values.length; i++) {
+            x.lay(r, i, values[i]);
+        }
+    }
+
+    static SecondRoom withRow(int r, int... values) {
+        SecondRoom x = new SecondRoom();
+        fill(x, r, values);
+        return x;
     }
 
     static void write(SecondRoom x, int t, String text) {
@@ -79,6 +147,21 @@ final class Checks {
         if (guests < 1) {
             throw new IllegalStateException("hotel of \"" + text + "\" answered " + guests);
         }
+        return x;
+    }
+
+    static void use(SecondRoom x, int g, int times) {
+        for (int i = 0; i < times; i++) {
+            x.use(g);
+        }
+    }
+
+    /** A HOTEL in which GUEST g USED ROOM 0, changed over, and USED ROOM 1 so often. */
+    static SecondRoom usedBy(String text, int g, int own, int seconds) {
+        SecondRoom x = hotelOf(text);
+        use(x, g, own);
+        x.change(g);
+        use(x, g, seconds);
         return x;
     }
 

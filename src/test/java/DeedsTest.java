@@ -5,12 +5,6 @@ public final class DeedsTest {
     private static final String TEXT = "n3 g1011 s0111 o0111";
     private static final Checks c = new Checks("DeedsTest");
 
-    private static void useTimes(SecondRoom x, int g, int times) {
-        for (int i = 0; i < times; i++) {
-            x.use(g);
-        }
-    }
-
     private static void change() {
         SecondRoom x = Checks.hotelOf(TEXT);
         c.due("change(1)", x.change(1), 1);
@@ -23,7 +17,7 @@ public final class DeedsTest {
         x.lock(0, 1);
         c.refused("change(0), LOCKED", x, () -> x.change(0), STATE);
         c.due("change(1), whose door is open", x.change(1), 1);
-        useTimes(x, 1, 55);
+        Checks.use(x, 1, 55);
         c.due("60 DEEDS", x.count(3), 60);
         c.refused("change(1), 60 DEEDS", x, () -> x.change(1), FULL);
         c.refused("change(0), LOCKED and 60 DEEDS", x, () -> x.change(0), STATE);
@@ -43,7 +37,7 @@ public final class DeedsTest {
         c.refused("lock(0, -1)", x, () -> x.lock(0, -1), BAD);
         c.refused("lock(2, 0)", x, () -> x.lock(2, 0), BAD);
         c.refused("lock(-1, 1)", x, () -> x.lock(-1, 1), BAD);
-        useTimes(x, 0, 57);
+        Checks.use(x, 0, 57);
         c.refused("lock(1, 1), 60 DEEDS", x, () -> x.lock(1, 1), FULL);
         c.refused("lock(0, 1), LOCKED and 60 DEEDS", x, () -> x.lock(0, 1), STATE);
     }
@@ -60,7 +54,7 @@ public final class DeedsTest {
         c.stateIs("used", x, 7, 1, 1, 2, 2, 1, 0);
         c.refused("use(2)", x, () -> x.use(2), BAD);
         c.refused("use(-1)", x, () -> x.use(-1), BAD);
-        useTimes(x, 1, 52);
+        Checks.use(x, 1, 52);
         c.due("the 60th DEED", x.use(1), 54);
         c.refused("use(1), 60 DEEDS", x, () -> x.use(1), FULL);
         c.refused("use(2), 60 DEEDS", x, () -> x.use(2), BAD);
@@ -88,7 +82,7 @@ public final class DeedsTest {
         c.due("use(0) behind undo(2)", x.use(0), 1);
         c.due("undo(0)", x.undo(0), 3);
         c.stateIs("undo(0)", x, 0, 0, 0, 0, 0, 0, 0);
-        useTimes(x, 0, 60);
+        Checks.use(x, 0, 60);
         c.due("undo(59) of 60", x.undo(59), 1);
         c.due("use(0) behind it", x.use(0), 60);
         SecondRoom none = new SecondRoom();

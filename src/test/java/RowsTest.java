@@ -4,26 +4,6 @@ public final class RowsTest {
     private static final int NOTHING = 1, BEYOND = 2, NOUGHT = 4, SIZE = 5;
     private static final Checks c = new Checks("RowsTest");
 
-    private static SecondRoom withRow(int r, int... values) {
-        SecondRoom x = new SecondRoom();
-        fill(x, r, values);
-        return x;
-    }
-
-    private static void fill(SecondRoom x, int r, int... values) {
-        x.row(r, values.length);
-        for (int i = 0; i < values.length; i++) {
-            x.lay(r, i, values[i]);
-        }
-    }
-
-    private static void rowIs(String when, SecondRoom x, int r, int... values) {
-        for (int i = 0; i < values.length; i++) {
-            c.due(when + ": at(" + r + ", " + i + ")", x, x.at(r, i), 1, values[i]);
-        }
-        c.due(when + ": at(" + r + ", size)", x.at(r, values.length), SecondRoom.FINDING);
-    }
-
     private static void newObject() {
         SecondRoom x = new SecondRoom();
         for (int what = 0; what < 10; what++) {
@@ -50,16 +30,16 @@ public final class RowsTest {
     private static void row() {
         SecondRoom x = new SecondRoom();
         c.due("row(0, 3)", x.row(0, 3), 3);
-        rowIs("row(0, 3)", x, 0, 0, 0, 0);
+        c.rowIs("row(0, 3)", x, 0, 0, 0, 0);
         c.due("row(5, 40)", x.row(5, 40), 40);
         c.due("at(5, 39)", x, x.at(5, 39), 1, 0);
         c.due("row(1, 0)", x.row(1, 0), 0);
         c.due("count(7)", x.count(7), 3);
         x.lay(0, 1, 7);
         c.due("row(0, 2) anew", x.row(0, 2), 2);
-        rowIs("row(0, 2) anew", x, 0, 0, 0);
+        c.rowIs("row(0, 2) anew", x, 0, 0, 0);
         c.due("row(0, 3) anew", x.row(0, 3), 3);
-        rowIs("row(0, 3) anew", x, 0, 0, 0, 0);
+        c.rowIs("row(0, 3) anew", x, 0, 0, 0, 0);
         c.refused("row(0, 41)", x, () -> x.row(0, 41), BAD);
         c.refused("row(6, 1)", x, () -> x.row(6, 1), BAD);
         c.refused("row(-1, 1)", x, () -> x.row(-1, 1), BAD);
@@ -70,11 +50,11 @@ public final class RowsTest {
     }
 
     private static void layAndAt() {
-        SecondRoom x = withRow(2, 5, -6);
-        fill(x, 3, 1, 2);
+        SecondRoom x = Checks.withRow(2, 5, -6);
+        Checks.fill(x, 3, 1, 2);
         c.due("lay(2, 1, 9)", x, x.lay(2, 1, 9), 1, -6);
-        rowIs("lay(2, 1, 9)", x, 2, 5, 9);
-        rowIs("lay(2, 1, 9), the next ROW", x, 3, 1, 2);
+        c.rowIs("lay(2, 1, 9)", x, 2, 5, 9);
+        c.rowIs("lay(2, 1, 9), the next ROW", x, 3, 1, 2);
         c.due("lay(2, 0, MIN)", x, x.lay(2, 0, Integer.MIN_VALUE), 1, 5);
         c.due("at(2, 0)", x, x.at(2, 0), 1, Integer.MIN_VALUE);
         c.refused("lay(6, 0, 1)", x, () -> x.lay(6, 0, 1), BAD);
@@ -94,7 +74,7 @@ public final class RowsTest {
     }
 
     private static void tear() {
-        SecondRoom x = withRow(4, 1, 2);
+        SecondRoom x = Checks.withRow(4, 1, 2);
         c.due("tear(4)", x.tear(4), 1);
         c.due("count(7)", x.count(7), 0);
         c.due("digest() is as if never there", x.digest(), new SecondRoom().digest());
@@ -103,20 +83,20 @@ public final class RowsTest {
         c.refused("tear(6)", x, () -> x.tear(6), BAD);
         c.refused("tear(-1)", x, () -> x.tear(-1), BAD);
         x.row(4, 2);
-        rowIs("row(4, 2) behind tear(4)", x, 4, 0, 0);
+        c.rowIs("row(4, 2) behind tear(4)", x, 4, 0, 0);
     }
 
     private static void copy() {
-        SecondRoom x = withRow(0, 1, 2, 3, 4, 5);
-        fill(x, 1, 10, 20, 30);
+        SecondRoom x = Checks.withRow(0, 1, 2, 3, 4, 5);
+        Checks.fill(x, 1, 10, 20, 30);
         c.due("copy(0, 1, 1, 0, 2)", x.copy(0, 1, 1, 0, 2), 1);
-        rowIs("copy(0, 1, 1, 0, 2)", x, 1, 2, 3, 30);
+        c.rowIs("copy(0, 1, 1, 0, 2)", x, 1, 2, 3, 30);
         c.due("copy(0, 0, 0, 1, 4)", x.copy(0, 0, 0, 1, 4), 1);
-        rowIs("copied ahead within itself", x, 0, 1, 1, 2, 3, 4);
+        c.rowIs("copied ahead within itself", x, 0, 1, 1, 2, 3, 4);
         c.due("copy(0, 2, 0, 1, 3)", x.copy(0, 2, 0, 1, 3), 1);
-        rowIs("copied back within itself", x, 0, 1, 2, 3, 4, 4);
+        c.rowIs("copied back within itself", x, 0, 1, 2, 3, 4, 4);
         c.due("copy(0, 5, 1, 3, 0), none at the end", x.copy(0, 5, 1, 3, 0), 1);
-        rowIs("copy of none", x, 1, 2, 3, 30);
+        c.rowIs("copy of none", x, 1, 2, 3, 30);
         c.refused("copy(6, 0, 0, 0, 1)", x, () -> x.copy(6, 0, 0, 0, 1), BAD);
         c.refused("copy(0, 0, 6, 0, -1)", x, () -> x.copy(0, 0, 6, 0, -1), BAD);
         c.refused("copy(-1, 0, 0, 0, 1)", x, () -> x.copy(-1, 0, 0, 0, 1), BAD);
@@ -136,13 +116,13 @@ public final class RowsTest {
     }
 
     private static void mean() {
-        SecondRoom x = withRow(0, 1, 2, 5);
+        SecondRoom x = Checks.withRow(0, 1, 2, 5);
         c.due("mean of 1, 2, 5", x, x.mean(0), 1, 2);
-        fill(x, 1, -3, -4);
+        Checks.fill(x, 1, -3, -4);
         c.due("mean of -3, -4, cut", x, x.mean(1), 1, -3);
-        fill(x, 2, Integer.MAX_VALUE, Integer.MAX_VALUE, Integer.MAX_VALUE);
+        Checks.fill(x, 2, Integer.MAX_VALUE, Integer.MAX_VALUE, Integer.MAX_VALUE);
         c.due("mean of thrice MAX", x, x.mean(2), 1, Integer.MAX_VALUE);
-        fill(x, 2, Integer.MIN_VALUE, Integer.MIN_VALUE);
+        Checks.fill(x, 2, Integer.MIN_VALUE, Integer.MIN_VALUE);
         c.due("mean of twice MIN", x, x.mean(2), 1, Integer.MIN_VALUE);
         x.row(3, 0);
         c.found("mean of an empty ROW", x, () -> x.mean(3), NOUGHT);
